@@ -470,7 +470,6 @@ public final class StepText {
         static final int ASK = 18;
         static final int DO = 19;
         static final int STOP = 20;
-        static final int HOLD = 21;
         static final int ACT = 22;
         static final int BLOCK = 23;
         static final int STEP = 24;
@@ -530,7 +529,6 @@ public final class StepText {
             rows[n] = row;
             values[n] = value;
             measures[n] = measure;
-            late[n] = false;
             firsts[n] = chainFrom(low, n);
             sizes[n] = followChain(firsts[n]);
             if (kind >= SET && kind <= ACT) {
@@ -716,9 +714,6 @@ public final class StepText {
             program.empty();
             names = program.names();
             nodes = program.nodes();
-            if (words.code == Words.WRONG) {
-                refuse(words.place);
-            }
             for (int i = 0; i < MOST_BYTES && isBetween(Keywords.SIGNAL, Keywords.STEP); i++) {
                 int sort = words.code;
                 int row = words.row;

@@ -6,8 +6,11 @@ public final class NewAndClearTest {
         isAsAtFirst("new", new StepText());
 
         StepText x = Due.program("signal a; act 5; stop; hold;");
+        x.bar(0);
         x.bar(5);
+        x.bar(63);
         Due.tell(x, "hold; ");
+        due.same("written before clear", x.write(0), 's');
         x.clear();
         isAsAtFirst("cleared", x);
 
@@ -32,7 +35,7 @@ public final class NewAndClearTest {
         due.same(which + " check(0, 1)", x.check(0, 1), -1);
         due.same(which + " write(0)", x.write(0), -1);
         due.same(which + " read() of nothing", x.read(), 0);
-        due.same(which + " remarks of acts", Due.read(x, "act 5;"), 1);
+        due.same(which + " read() of acts", Due.read(x, "act 0; act 5; act 63;"), 3);
         due.same(which + " no act is barred", x.check(0, 0), -1);
         due.same(which + " bar(5) is new", x.bar(5), true);
     }

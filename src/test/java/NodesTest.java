@@ -120,6 +120,11 @@ public final class NodesTest {
         due.same("the greatest", great.number(0, 0), 999_999_999_999L);
         due.same("a great one in h", great.number(2, 0), 277_777_777L * 3600);
         due.same("nothing", great.number(4, 0), 0);
+        due.same("of wait", great.number(1, 0), 0);
+        StepText others = Due.program("wait - 1 s + 1 s; stop; par { } { }");
+        for (int n : new int[] {1, 3, 4, 5, 6, 8}) {
+            due.same("of others " + n, others.number(n, 0), 0);
+        }
     }
 
     private static void units(String sum, int... wanted) {

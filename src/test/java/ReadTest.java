@@ -70,6 +70,11 @@ public final class ReadTest {
         right("\n\nhold\n;\n", 1);
         wrong("!@");
         wrong("!Hold;");
+        wrong("!\u0001");
+        wrong("hold; !\u0001hold;");
+        wrong("hold; !\u007f");
+        wrong("!" + ";".repeat(4000));
+        wrong("wait " + "(".repeat(60) + "!" + "(".repeat(3935));
         wrong("hold!\t;");
         wrong("hold; !\r");
         wrong("hold !.;");

@@ -113,5 +113,12 @@ public final class RemarksTest {
         due.same("a wrong text changes none", x.check(10, 1), 3);
         Due.read(x, "hold;");
         due.same("a new program has its own", x.check(0, 0), -1);
+        for (int i = 0; i < 4; i++) {
+            Due.read(x, "signal a; output b; step e { } ask a; set b 1; do e;");
+            due.same("all are used", Due.remarks(x), "");
+            Due.read(x, "signal a; output b; step e { }");
+            Due.read(x, "signal a; output b; step e { }");
+            due.same("and not by an earlier program", Due.remarks(x), "1 2, 4 1, 5 0, ");
+        }
     }
 }
