@@ -2,6 +2,37 @@
 final class Due {
     private int looked = 0;
     private int wrong = 0;
+    private int lookedBefore = 0;
+    private String sentence = "";
+
+    /** The sentence of the document that the answers from here on are due by. */
+    void by(String words) {
+        isLookedAt();
+        sentence = words;
+    }
+
+    private void isLookedAt() {
+        if (!sentence.isEmpty() && looked == lookedBefore) {
+            wrong++;
+            System.out.println("no answer was looked at by: " + sentence);
+        }
+        lookedBefore = looked;
+    }
+
+    /** A text that is right, and how many statements it has. */
+    void right(String text, int statements) {
+        same("read of " + text, read(new StepText(), text), statements);
+    }
+
+    /** A text that is wrong; the mark ! stands before the first wrong byte. */
+    void wrong(String marked) {
+        int place = marked.indexOf('!');
+        wrongAt(marked.substring(0, place) + marked.substring(place + 1), place);
+    }
+
+    void wrongAt(String text, int place) {
+        same("read of " + text, read(new StepText(), text), -1 - place);
+    }
 
     void same(String call, long got, long want) {
         same(call, Long.toString(got), Long.toString(want));
@@ -15,7 +46,8 @@ final class Due {
         looked++;
         if (!got.equals(want)) {
             wrong++;
-            System.out.println(cut(call) + " answered " + cut(got) + ", due is " + cut(want));
+            String which = sentence.isEmpty() ? "" : " [" + sentence + "]";
+            System.out.println(cut(call) + " answered " + cut(got) + ", due is " + cut(want) + which);
         }
     }
 
@@ -24,6 +56,7 @@ final class Due {
     }
 
     void end() {
+        isLookedAt();
         System.out.println(looked + " answers, " + wrong + " not as due");
         if (wrong != 0 || looked == 0) {
             System.exit(1);
