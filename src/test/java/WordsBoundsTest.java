@@ -50,6 +50,9 @@ public final class WordsBoundsTest {
         due.right("hold;".repeat(800), 800);
         due.wrongAt(" ".repeat(3996) + "hold", 4000);
         due.wrongAt(" ".repeat(3999) + ";", 3999);
+        // 4,000 words of a byte each
+        due.wrongAt(";".repeat(4000), 0);
+        due.wrongAt("hold;" + "(".repeat(3995), 5);
         // the ; would be byte 4,001
         due.wrongAt(" ".repeat(3996) + "hold;", 4000);
     }
