@@ -205,16 +205,29 @@ public final class WriteBoundsTest {
         for (int i : new int[] {Integer.MIN_VALUE, -2, -1, want.length(), want.length() + 1, 12000, Integer.MAX_VALUE}) {
             due.same("write(" + i + ")", x.write(i), -1);
         }
-        // a text that is more than twice as long as it was read has all its bytes, too
-        String nested = "9 h-(".repeat(59) + "9 h-9 h" + ")".repeat(59);
-        String grown = "32400 s - ( ".repeat(59) + "32400 s - 32400 s" + " )".repeat(59);
-        String text = "wait " + nested + ("-" + nested).repeat(7) + ";";
-        String grownText = "wait " + grown + (" - " + grown).repeat(7) + " ;\n";
-        due.same("more than twice as long", grownText.length() > 2 * text.length(), true);
-        written(text, grownText);
+        longestText();
         StepText wide = Due.program("hold;".repeat(800));
         due.same("write(4000)", wide.write(4000), "hold ;\n".charAt(4000 % 7));
         due.same("write(5599)", wide.write(5599), 10);
         due.same("write(5600)", wide.write(5600), -1);
+    }
+
+    /** 1,000 nodes and 100 NAMES in nearly 4,000 bytes, of words that grow as much as words can. */
+    private static void longestText() {
+        StringBuilder told = new StringBuilder();
+        StringBuilder grownTold = new StringBuilder();
+        for (int i = 0; i < 100; i++) {
+            String name = "" + "mnopqrstuv".charAt(i / 10) + i % 10;
+            told.append("signal " + name + ";");
+            grownTold.append("signal " + name + " ;\n");
+        }
+        String nested = "9 h-(".repeat(60) + "9 h-9 h" + ")".repeat(60);
+        String grown = "32400 s - ( ".repeat(60) + "32400 s - 32400 s" + " )".repeat(60);
+        String text = told + "wait " + nested + ("-" + nested).repeat(7) + "-9 h".repeat(4) + ";";
+        String grownText = grownTold + "wait " + grown + (" - " + grown).repeat(7) + " - 32400 s".repeat(4) + " ;\n";
+        due.same("as long as can be read", text.length() > 3900 && text.length() <= 4000, true);
+        due.same("and more than twice as long", grownText.length() > 2 * 4000, true);
+        due.same("with 1,000 nodes", Due.program(text).what(999), 11);
+        written(text, grownText);
     }
 }
