@@ -155,6 +155,7 @@ public final class StepText {
         static final int MOST_LETTERS = 12;
 
         // The statements stand first, in the order of their nodes' kinds; then the codes go on.
+        // One line, as texts are not to be joined by +.
         static final String SPELLED = "set wait until ramp par if repeat limit ask do stop hold act signal output step in else then l c s bar part min h ";
         static final int COUNT = 26;
         static final int SET = 200;
@@ -570,6 +571,11 @@ public final class StepText {
             return size;
         }
 
+        /** Whether a ; ends nodes of a kind: statements that have no blocks. */
+        static boolean endsWithSemicolon(int kind) {
+            return kind >= SET && kind < PAR || kind > LIMIT && kind <= ACT;
+        }
+
         int kindOf(int n) {
             return has(n) ? kinds[n] : NONE;
         }
@@ -808,15 +814,48 @@ public final class StepText {
             int kind = words.code - Keywords.SET + Nodes.SET;
             int low = nodes.count();
             int row = words.row;
+            int subject = 0;
             pass();
-            long value = 0;
-            if (kind >= Nodes.PAR && kind <= Nodes.LIMIT) {
-                readBranches(kind, open);
-            } else {
-                value = readSimple(kind, open);
+            switch (kind) {
+                case Nodes.SET:
+                case Nodes.RAMP:
+                    subject = readName(Keywords.OUTPUT);
+                    names.use(subject);
+                    readSumOf(names.measureOf(subject), open);
+                    if (kind == Nodes.RAMP) {
+                        take(Keywords.IN);
+                        readSumOf(SECONDS, open);
+                    }
+                    break;
+                case Nodes.WAIT:
+                    readSumOf(SECONDS, open);
+                    break;
+                case Nodes.UNTIL:
+                    readTest(open);
+                    break;
+                case Nodes.ASK:
+                    subject = readName(Keywords.SIGNAL);
+                    names.use(subject);
+                    break;
+                case Nodes.DO:
+                    subject = readName(Keywords.STEP);
+                    break;
+                case Nodes.ACT:
+                    subject = readAct();
+                    break;
+                case Nodes.PAR:
+                case Nodes.IF:
+                case Nodes.REPEAT:
+                case Nodes.LIMIT:
+                    readBranches(kind, open);
+                    break;
+                default:
+                    break;
+            }
+            if (Nodes.endsWithSemicolon(kind)) {
                 take(';');
             }
-            nodes.add(kind, low, row, value, 0);
+            nodes.add(kind, low, row, subject, 0);
         }
 
         private void readBranches(int kind, int open) {
@@ -840,39 +879,6 @@ public final class StepText {
             }
         }
 
-        /** What stands before the ; of a statement without blocks: its NAME's number, or its act. */
-        private long readSimple(int kind, int open) {
-            int name;
-            switch (kind) {
-                case Nodes.SET:
-                case Nodes.RAMP:
-                    name = readName(Keywords.OUTPUT);
-                    names.use(name);
-                    readSumOf(names.measureOf(name), open);
-                    if (kind == Nodes.RAMP) {
-                        take(Keywords.IN);
-                        readSumOf(SECONDS, open);
-                    }
-                    return name;
-                case Nodes.WAIT:
-                    readSumOf(SECONDS, open);
-                    return 0;
-                case Nodes.UNTIL:
-                    readTest(open);
-                    return 0;
-                case Nodes.ASK:
-                    name = readName(Keywords.SIGNAL);
-                    names.use(name);
-                    return name;
-                case Nodes.DO:
-                    return readName(Keywords.STEP);
-                case Nodes.ACT:
-                    return readAct();
-                default:
-                    return 0;
-            }
-        }
-
         private int readName(int sort) {
             int name = words.code == Words.NAME ? names.find(words.value) : NONE;
             if (name == NONE || names.sortOf(name) != sort) {
@@ -882,13 +888,13 @@ public final class StepText {
             return name;
         }
 
-        private long readAct() {
+        private int readAct() {
             long act = words.value / 1000;
             if (words.code != Words.WHOLE || act >= ACTS) {
                 refuse(words.place);
             }
             pass();
-            return act;
+            return (int) act;
         }
 
         private void readSumOf(int measure, int open) {
@@ -1152,7 +1158,7 @@ public final class StepText {
             if (kind == Nodes.BLOCK) {
                 beginLine();
                 putSign('}');
-            } else if (kind >= Nodes.SET && kind < Nodes.PAR || kind > Nodes.LIMIT && kind <= Nodes.ACT) {
+            } else if (Nodes.endsWithSemicolon(kind)) {
                 putSign(';');
             } else if (isBracketed(n)) {
                 putSign(')');
